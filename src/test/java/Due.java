@@ -1,0 +1,77 @@
+/** What tests share: answers that are not as due are printed and counted, and tables are told. */
+final class Due {
+    private static int wrong;
+    private static int asked;
+
+    private Due() {
+    }
+
+    static void same(String call, long got, long want) {
+        asked++;
+        if (got != want) {
+            wrong++;
+            System.out.println(call + " answered " + got + ", due is " + want);
+        }
+    }
+
+    static void holds(String what, boolean isSo) {
+        asked++;
+        if (!isSo) {
+            wrong++;
+            System.out.println("not so: " + what);
+        }
+    }
+
+    static void write(AlternateSigns x, String letters) {
+        x.wipe();
+        for (int at = 0; at < letters.length(); at++) {
+            same("write " + letters + " at " + at, x.write(letters.charAt(at)), at + 1);
+        }
+    }
+
+    static AlternateSigns laid(String letters) {
+        AlternateSigns x = new AlternateSigns();
+        lay(x, letters);
+        return x;
+    }
+
+    static void lay(AlternateSigns x, String letters) {
+        write(x, letters);
+        same("lay " + letters, x.lay(), letters.indexOf(';'));
+    }
+
+    static AlternateSigns taken(int n, int rank) {
+        AlternateSigns x = new AlternateSigns();
+        same("take " + n + " " + rank, x.take(n, rank), n);
+        return x;
+    }
+
+    /** THE TABLE in the letters of THE TEXT. */
+    static String letters(AlternateSigns x) {
+        StringBuilder text = new StringBuilder();
+        int n = x.count(0);
+        for (int row = 0; row < n; row++) {
+            for (int column = 0; column < n; column++) {
+                text.append("-0+".charAt(x.sign(row, column) - 99));
+            }
+            text.append(';');
+        }
+        return text.toString();
+    }
+
+    static void table(String when, AlternateSigns x, String want) {
+        asked++;
+        String got = letters(x);
+        if (!got.equals(want)) {
+            wrong++;
+            System.out.println(when + ": the table is " + got + ", due is " + want);
+        }
+    }
+
+    static void end() {
+        System.out.println(asked + " answers, " + wrong + " not as due");
+        if (wrong != 0) {
+            System.exit(1);
+        }
+    }
+}
