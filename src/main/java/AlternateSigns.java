@@ -227,7 +227,7 @@ public final class AlternateSigns {
             return NO;
         }
         past.remember(table);
-        return which == 0 ? table.lowerTo(other) : table.raiseTo(other);
+        return table.takeHeights(which == 0 ? LESS : MORE, other);
     }
 
     public int turn(int k) {
@@ -458,36 +458,29 @@ public final class AlternateSigns {
             return sum;
         }
 
-        boolean comesNearer(int i, int j, Table goal) {
+        /** Whether the HEIGHT of another table is MORE or LESS there than the own one, or neither. */
+        private int wayTo(Table goal, int i, int j) {
             int missing = goal.heightAt(i, j) - heightAt(i, j);
+            return missing > 0 ? MORE : missing < 0 ? LESS : 0;
+        }
+
+        boolean comesNearer(int i, int j, Table goal) {
             int kind = flipKind(i, j);
-            return kind == MORE && missing > 0 || kind == LESS && missing < 0;
+            return kind != 0 && kind == wayTo(goal, i, j);
         }
 
-        int lowerTo(Table bound) {
-            int changed = 0;
+        /** Takes those HEIGHTS of another table that are of this kind beside the own ones. */
+        int takeHeights(int kind, Table from) {
+            int taken = 0;
             for (int i = 1; i < size; i++) {
                 for (int j = 1; j < size; j++) {
-                    if (bound.heightAt(i, j) < heightAt(i, j)) {
-                        putCorner(i, j, bound.cornerAt(i, j));
-                        changed++;
+                    if (wayTo(from, i, j) == kind) {
+                        putCorner(i, j, from.cornerAt(i, j));
+                        taken++;
                     }
                 }
             }
-            return changed;
-        }
-
-        int raiseTo(Table bound) {
-            int changed = 0;
-            for (int i = 1; i < size; i++) {
-                for (int j = 1; j < size; j++) {
-                    if (bound.heightAt(i, j) > heightAt(i, j)) {
-                        putCorner(i, j, bound.cornerAt(i, j));
-                        changed++;
-                    }
-                }
-            }
-            return changed;
+            return taken;
         }
 
         /** Becomes another table of the same size, turned or mirrored as k says. */
