@@ -608,18 +608,13 @@ public final class AlternateSigns {
             if (isWhole()) {
                 return false;
             }
-            switch (letter) {
-                case '+':
-                    return canPut(1);
-                case '-':
-                    return canPut(-1);
-                case '0':
-                    return canPut(0);
-                case ';':
-                    return canEndRow();
-                default:
-                    return false;
+            if (letter == ';') {
+                return canEndRow();
             }
+            if (letter == '0') {
+                return canPut(0);
+            }
+            return letter == '+' && canPut(1) || letter == '-' && canPut(-1);
         }
 
         private boolean canPut(int sign) {
