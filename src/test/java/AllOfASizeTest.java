@@ -31,10 +31,9 @@ public final class AllOfASizeTest {
     }
 
     private static void everyRank() {
-        AlternateSigns x = new AlternateSigns();
         for (int n = 1; n <= 6; n++) {
             for (int rank = 0; rank < MANY[n - 1]; rank++) {
-                x.take(n, rank);
+                AlternateSigns x = Due.taken(n, rank);
                 Due.same("rank of " + n, x.rank(), rank);
                 Due.table("rank " + rank + " of " + n, x, Oracle.letters(Oracle.all(n).get(rank)));
             }
@@ -130,11 +129,10 @@ public final class AllOfASizeTest {
 
     /** The i-th way is that of the i-th table, by rank, which joins its ends as none ahead of it. */
     private static void waysAreAlike() {
-        AlternateSigns x = new AlternateSigns();
         for (int n = 1; n <= 5; n++) {
             java.util.Set<String> seen = new java.util.HashSet<>();
             for (int rank = 0; rank < MANY[n - 1]; rank++) {
-                x.take(n, rank);
+                AlternateSigns x = Due.taken(n, rank);
                 StringBuilder partners = new StringBuilder();
                 for (int end = 0; end < 2 * n; end++) {
                     partners.append(x.partner(end)).append(' ');

@@ -2,15 +2,33 @@
 final class Due {
     private static int wrong;
     private static int asked;
+    private static String about = "";
 
     private Due() {
+    }
+
+    /** What is printed ahead of each answer that is not as due, until the next words. */
+    static void about(String words) {
+        about = words;
+    }
+
+    static int asked() {
+        return asked;
     }
 
     static void same(String call, long got, long want) {
         asked++;
         if (got != want) {
             wrong++;
-            System.out.println(call + " answered " + got + ", due is " + want);
+            System.out.println(about + call + " answered " + got + ", due is " + want);
+        }
+    }
+
+    static void same(String what, String got, String want) {
+        asked++;
+        if (!got.equals(want)) {
+            wrong++;
+            System.out.println(about + what + " is " + got + ", due is " + want);
         }
     }
 
@@ -18,7 +36,7 @@ final class Due {
         asked++;
         if (!isSo) {
             wrong++;
-            System.out.println("not so: " + what);
+            System.out.println(about + "not so: " + what);
         }
     }
 
@@ -46,13 +64,14 @@ final class Due {
         return x;
     }
 
-    /** THE TABLE in the letters of THE TEXT. */
+    /** THE TABLE in the letters of THE TEXT; another letter where a place is none. */
     static String letters(AlternateSigns x) {
         StringBuilder text = new StringBuilder();
         int n = x.count(0);
         for (int row = 0; row < n; row++) {
             for (int column = 0; column < n; column++) {
-                text.append("-0+".charAt(x.sign(row, column) - 99));
+                int sign = x.sign(row, column) - 99;
+                text.append(sign < 0 || sign > 2 ? '?' : "-0+".charAt(sign));
             }
             text.append(';');
         }
@@ -60,12 +79,7 @@ final class Due {
     }
 
     static void table(String when, AlternateSigns x, String want) {
-        asked++;
-        String got = letters(x);
-        if (!got.equals(want)) {
-            wrong++;
-            System.out.println(when + ": the table is " + got + ", due is " + want);
-        }
+        same(when + ": the table", letters(x), want);
     }
 
     static void end() {

@@ -90,10 +90,9 @@ public final class FlipsTest {
         Due.same("of three", new AlternateSigns().orbit(), 3);
         Due.same("the longest of six", Due.taken(6, 248).orbit(), 84);
         for (int n = 1; n <= 5; n++) {
-            AlternateSigns x = new AlternateSigns();
-            for (int rank = 0; rank < x.many(n, -1); rank++) {
-                x.take(n, rank);
-                orbitByGyrations(x, rank);
+            int many = new AlternateSigns().many(n, -1);
+            for (int rank = 0; rank < many; rank++) {
+                orbitByGyrations(Due.taken(n, rank), rank);
             }
         }
     }

@@ -83,12 +83,10 @@ public final class LinesTest {
 
     /** Partners are each other's and do not cross; what is on no line is on rings. */
     private static void everyTable() {
-        AlternateSigns x = new AlternateSigns();
         for (int n = 1; n <= 6; n++) {
-            int many = x.many(n, -1);
+            int many = new AlternateSigns().many(n, -1);
             for (int rank = 0; rank < many; rank++) {
-                x.take(n, rank);
-                checkLines(x, n, "rank " + rank + " of " + n);
+                checkLines(Due.taken(n, rank), n, "rank " + rank + " of " + n);
             }
         }
     }
@@ -110,12 +108,10 @@ public final class LinesTest {
 
     /** Wieland: by a gyration all partners go back by one END, so that as many have the new ones. */
     private static void gyrationTurnsPartners() {
-        AlternateSigns x = new AlternateSigns();
         for (int n = 1; n <= 5; n++) {
-            int many = x.many(n, -1);
+            int many = new AlternateSigns().many(n, -1);
             for (int rank = 0; rank < many; rank++) {
-                x.take(n, rank);
-                gyrateOnce(x, n, "rank " + rank + " of " + n);
+                gyrateOnce(Due.taken(n, rank), n, "rank " + rank + " of " + n);
             }
         }
     }

@@ -364,6 +364,22 @@ final class Oracle {
         return in(end, 0, 2 * table.length - 1) ? new Net(table).sizeFrom(end) : BAD;
     }
 
+    static List<Integer> partners(int[][] t) {
+        return new Net(t).partners();
+    }
+
+    static int lineSize(int[][] t, int end) {
+        return new Net(t).sizeFrom(end);
+    }
+
+    static int ringEdges(int[][] t) {
+        return new Net(t).ringEdges();
+    }
+
+    static int rings(int[][] t) {
+        return new Net(t).rings();
+    }
+
     /** DRAWN EDGES, those of a place joined: parts of it are LINES or RINGS. */
     private static final class Net {
         final Map<String, String> edges = new LinkedHashMap<>();
