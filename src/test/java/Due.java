@@ -1,5 +1,8 @@
 /** What tests share: answers that are not as due are printed and counted, and tables are told. */
 final class Due {
+    /** Behind so many no more is asked: a program so wrong may not end. */
+    private static final int MOST_WRONG = 100;
+
     private static int wrong;
     private static int asked;
     private static String about = "";
@@ -19,24 +22,30 @@ final class Due {
     static void same(String call, long got, long want) {
         asked++;
         if (got != want) {
-            wrong++;
-            System.out.println(about + call + " answered " + got + ", due is " + want);
+            isWrong(call + " answered " + got + ", due is " + want);
         }
     }
 
     static void same(String what, String got, String want) {
         asked++;
         if (!got.equals(want)) {
-            wrong++;
-            System.out.println(about + what + " is " + got + ", due is " + want);
+            isWrong(what + " is " + got + ", due is " + want);
         }
     }
 
     static void holds(String what, boolean isSo) {
         asked++;
         if (!isSo) {
-            wrong++;
-            System.out.println(about + "not so: " + what);
+            isWrong("not so: " + what);
+        }
+    }
+
+    private static void isWrong(String answer) {
+        wrong++;
+        System.out.println(about + answer);
+        if (wrong >= MOST_WRONG) {
+            System.out.println("the rest is not asked");
+            end();
         }
     }
 

@@ -119,16 +119,33 @@ final class SizeBounds extends Bounds {
             }
             Due.same("the first of N " + n + " has none but itself", Due.taken(n, 0).alike(), 1);
         }
-        AlternateSigns x = new AlternateSigns();
         int[] mostOf = {1, 1, 2, 7, 42};
         for (int n = 1; n <= 5; n++) {
             int most = 0;
-            for (int rank : ranks(n, 100)) {
-                x.take(n, rank);
-                most = Math.max(most, x.alike());
-                x = rank % 50 == 0 ? new AlternateSigns() : x;
+            for (int rank = 0; rank < MANY[n - 1]; rank++) {
+                most = Math.max(most, Due.taken(n, rank).alike());
             }
             Due.same("the most of N " + n, most, mostOf[n - 1]);
+        }
+        otherSizesBetween();
+    }
+
+    /** What was asked of tables of another size does not matter. */
+    private static void otherSizesBetween() {
+        for (int n = 1; n <= 5; n++) {
+            for (int rank : ranks(n, 20)) {
+                AlternateSigns x = Due.taken(n, rank);
+                int due = x.alike();
+                for (int m = 1; m <= 6; m++) {
+                    for (int between : ranks(m, 6)) {
+                        x.take(m, between);
+                        x.line(2 * m - 1);
+                        x.alike();
+                        x.undo();
+                        Due.same("alike" + of(n, rank) + " behind" + of(m, between), x.alike(), due);
+                    }
+                }
+            }
         }
     }
 
