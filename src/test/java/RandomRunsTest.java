@@ -3,8 +3,10 @@ import java.util.Random;
 
 /** Runs of 512 calls, the same at each start, answered as the oracle answers. */
 public final class RandomRunsTest {
-    private static final int RUNS = 300;
+    private static final int RUNS = 800;
     private static final int CALLS = 512;
+    /** So many calls at most are made at a time. */
+    private static final int AT_A_TIME = 5;
     private static final int[] ODD = {Integer.MIN_VALUE, Integer.MAX_VALUE, -2, -1, 0, 7, 8, 12, 13, 100, 101, 1 << 30};
 
     private final Random random;
@@ -24,8 +26,15 @@ public final class RandomRunsTest {
     }
 
     private void go(int run) {
-        for (int call = 0; call < CALLS; call++) {
-            one("run " + run + ", call " + call + ", ");
+        int before = Due.asked();
+        // Each answer that is compared is that of one call.
+        for (int calls = 0; calls < CALLS; calls = Due.asked() - before) {
+            String at = "run " + run + ", behind call " + calls + ", ";
+            if (calls <= CALLS - AT_A_TIME) {
+                one(at);
+            } else {
+                Due.same(at + "rank", x.rank(), oracle.rank());
+            }
         }
     }
 
