@@ -19,6 +19,8 @@ public final class FaceTest {
     private static final String[] FORBIDDEN = {"throw", "throws", "try", "catch", "finally", "synchronized", "assert",
         "import", "package", "volatile", "transient", "native", "var", "System\\.(?!arraycopy)", "\\w+Exact",
         "Object", "Thread", "Random", "hashCode", "toString", "->", "::", "static\\s*\\{", "\"\\s*\\+", "\\+\\s*\""};
+    private static final Set<String> LIBRARY = Set.of("System.arraycopy", "Math.abs", "Math.min", "Integer.bitCount",
+        "TABLE_AT_FIRST.length", "TABLE_AT_FIRST.charAt");
 
     public static void main(String[] args) throws IOException {
         constants();
@@ -98,6 +100,16 @@ public final class FaceTest {
             Due.holds("no " + word, !matcher.find());
         }
         methodsAreShort(code);
+        library(code);
+    }
+
+    /** Rule 4: of names with a dot, those that begin like a class or a constant are all looked up. */
+    private static void library(String code) {
+        Matcher used = Pattern.compile("\\b([A-Z]\\w*)\\.(\\w+)").matcher(code);
+        while (used.find()) {
+            Due.holds(used.group() + " is in the library's part", LIBRARY.contains(used.group()));
+        }
+        Due.holds("nothing of java.*", !code.contains("java."));
     }
 
     /** By the indent of methods: those of the class have four spaces, those of classes inside it eight. */
